@@ -517,6 +517,7 @@ public final class RungHouse {
 
     private Plan wayOf(int s, int h, int rule, int years) {
         if (rule == NONE) {
+            // Not by way of planOf: LANGUAGE.md lets calls go eight deep at most, as in weighSorts.
             Plan plan = plans[s * HOUSES + h];
             plan.know(years);
             return plan;
@@ -527,12 +528,13 @@ public final class RungHouse {
 
     private void weighSorts(int h, int years) {
         for (int s = 0; s < sortCount; s++) {
+            plans[s * HOUSES + h].know(years);
             weights[s] = FULL_WEIGHT;
         }
         for (int i = 0; i < now.yearsSize; i++) {
             long greatest = 0;
             for (int s = 0; s < sortCount; s++) {
-                longRun.reckonRung(planOf(s, h, years), years, now.rungs[i]);
+                longRun.reckonRung(plans[s * HOUSES + h], years, now.rungs[i]);
                 weights[s] = weights[s] * longRun.oddsOf(now.rungs[i], now.askings[i]) / MILLION;
                 greatest = Math.max(greatest, weights[s]);
             }
