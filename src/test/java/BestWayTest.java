@@ -26,6 +26,8 @@ public final class BestWayTest {
     leave();
     pad();
     setting();
+    settingByHand();
+    settingEnds();
     retold();
     c.close("BestWayTest");
   }
@@ -212,6 +214,7 @@ public final class BestWayTest {
     c.due("nothing is kept by asking", x.told(0, 5), 0);
     c.due("rung 3", x.keepRung(0, 0, 8, 3), Check.UNKNOWN);
     c.due("sort 1", x.keepRung(1, 0, 8, 0), Check.UNKNOWN);
+    c.due("Y 1", x.keepRung(0, 0, 1, 1), 0);
     c.due("Y 31", x.keepRung(0, 0, 31, 0), Check.OUTSIDE);
     c.due("Y 0, kept", x.keepRung(0, 1, 0, 2), Check.OUTSIDE);
   }
@@ -247,6 +250,11 @@ public final class BestWayTest {
     c.due("the mean", x.pad(0, 0, 2, 0, 0, 0, 30, 50, 10), 43000);
     c.due("last month", x.pad(0, 0, 2, 0, 11, 3, 30, 50, 100), -20000);
     c.due("below the first sum", x.pad(0, 0, 2, 0, 0, 0, 5, 50, 100), 0);
+    c.due("a coin in the last year", x.pad(0, 0, 1, 0, 0, 0, 1, 50, 100), 0);
+    c.withHouse(x, 1, "rung 100;rung 60;rung 33;down 1;first 10;");
+    int once = x.in(1, 1, 4, 0, 2, 1, 1, false);
+    c.due("no pains", x.pad(1, 1, 4, 2, 0, 0, 30, 50, 100), -(20000 + x.in(1, 1, 4, 0, 2, 1, 3, false) - once));
+    c.due("pains would tell", once == x.in(1, 1, 4, 0, 2, 1, 1, true) ? 0 : 1, 1);
     // With three rungs what it costs more is no round sum.
     c.withHouse(x, 1, "rung 100;rung 60;rung 33;down 1;");
     int more = 7000 + x.in(0, 1, 3, 0, 2, 6, 3, false) - x.in(0, 1, 3, 0, 2, 6, 1, false);
@@ -289,6 +297,49 @@ public final class BestWayTest {
     c.due("least", x.setting(0, 1, -10000000), Check.OUTSIDE);
     c.due("most", x.setting(0, 1, 10000000), Check.OUTSIDE);
     c.due("house 2", x.setting(2, 0, 0), Check.UNKNOWN);
+  }
+
+  /** The setting found call by call: each is told as a house of its own. */
+  private static void settingByHand() {
+    String rungs = "rung 120;rung 90;rung 70 kept;rung 55;rung 40;enter 1;";
+    String[] sorts = {"scrape 15 60;scrape 60 30;pains 6 40;", "scrape 25 90;pains 4 25;"};
+    int[] leasts = {-9999999, 30000, 40000, 45000, 50000};
+    for (int years : new int[] {1, 3, 12}) {
+      int[] most = {-1, -1, -1, -1, -1};
+      int[] due = {-1, -1, -1, -1, -1};
+      for (int d = 1; d <= 3; d++) {
+        for (int u = 1; u <= 4; u++) {
+          for (int f = 0; f <= 2; f++) {
+            RungHouse x = c.withHouse(new RungHouse(), 1, rungs + "up " + d + ";down " + u + ";first " + 10 * f + ";");
+            int pained = 0;
+            int even = Integer.MAX_VALUE;
+            for (int s = 0; s < 2; s++) {
+              c.withSort(x, sorts[s]);
+              for (int r = 0; r < 5; r++) pained += x.takes(s, 1, years, 0, r);
+              even = Math.min(even, x.even(s, 1, -1, years, 10, 2));
+            }
+            for (int i = 0; i < leasts.length; i++) {
+              if (even >= leasts[i] && pained > most[i]) { most[i] = pained; due[i] = 100 * d + 10 * u + f; }
+            }
+          }
+        }
+      }
+      RungHouse x = c.withHouse(new RungHouse(), 0, rungs + "up 9;down 9;first 99;");
+      for (String sort : sorts) c.withSort(x, sort);
+      for (int i = 0; i < leasts.length; i++) c.due("setting of " + years + " years, " + leasts[i], x.setting(0, years, leasts[i]), due[i]);
+    }
+  }
+
+  /** Where the upper rungs are the dear ones, the more up the better for the house; but D ends at 3. */
+  private static void settingEnds() {
+    StringBuilder rungs = new StringBuilder();
+    for (int r = 0; r < 10; r++) rungs.append("rung ").append(100 * r).append(';');
+    RungHouse x = c.withHouse(new RungHouse(), 0, rungs + "up 4;down 1;");
+    c.withHouse(x, 1, rungs + "up 3;down 1;first 20;");
+    c.withSort(x, "scrape 100 100;");
+    c.due("D 4 would do", x.even(0, 0, -1, 2, 10, 2), 264548);
+    c.due("but is not tried", x.setting(0, 2, 264548), Check.NONE);
+    c.due("D 3 is", x.setting(0, 2, x.even(0, 1, -1, 2, 10, 2)), 312);
   }
 
   /** What was reckoned for a house that has been told anew must not linger. */

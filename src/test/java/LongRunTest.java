@@ -147,6 +147,12 @@ public final class LongRunTest {
     c.due("no such rung", x.think(0, 0, 1), Check.NOT);
     c.due("OUTSIDE first", x.think(0, 0, 0), Check.OUTSIDE);
     x.clear();
+    x.year(2, 0);
+    c.due("no such rung at first", x.think(0, 0, 1), Check.NOT);
+    c.withHouse(x, 1, "rung 5;rung 5;rung 5;");
+    // Without a first sum 2 has nothing to spare by pains; 0 and 2 alike ask for nothing with 282431
+    c.due("the other house has it", x.think(0, 1, 1), 50);
+    c.due("who always asks", x.think(1, 1, 1), 0);
 
     RungHouse z = c.withHouse(new RungHouse(), 0, HOUSE);
     c.withSort(z, "scrape 400 9;");
@@ -258,6 +264,9 @@ public final class LongRunTest {
     c.due("1's seed", x.seed(1), 11);
     c.due("sorts are not of it", x.count(0), 3);
     c.due("nor rules", x.count(1), 3);
+    x.goBack(0);
+    // Asked thrice, as LongRunTest.think() has it; by the years of image 1 it would be 0.
+    c.due("its year is what it was", x.think(1, 0, 1), 88);
     Check.tell(x, "ru");
     c.due("nor the text", x.goBack(0) * 10 + x.count(4), 12);
   }

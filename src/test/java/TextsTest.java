@@ -113,6 +113,10 @@ public final class TextsTest {
     house("rung 1 2000;", -11, 7);
     house("run 1;", -11, 0);
     house("run", -11, 0);
+    house("sung 1;", -11, 0);
+    house("rungz 1;", -11, 0);
+    house("rung a;", -11, 5);
+    house("rung 1;zap;", -11, 7);
     house("rung 1;ru", -11, 7);
     house("Rung 1;", -11, 0);
     house("rUng 1;", -11, 0);
