@@ -429,7 +429,7 @@ public final class RungHouse {
             int k = 0;
             for (int m = 0; m < MONTHS; m++) {
                 int sum = sorts[s].sumDrawn(now.draw(THOUSAND));
-                boolean asked = sum > 0 && rules[rule].isAsked(r, m, sum);
+                boolean asked = sum > 0 && sum >= rules[rule].barOn(r, m);
                 spent += asked ? house.bears(sum) : sum;
                 k = asked ? oneMore(k) : k;
             }
@@ -517,10 +517,7 @@ public final class RungHouse {
 
     private Plan wayOf(int s, int h, int rule, int years) {
         if (rule == NONE) {
-            // Not by way of planOf: LANGUAGE.md lets calls go eight deep at most, as in weighSorts.
-            Plan plan = plans[s * HOUSES + h];
-            plan.know(years);
-            return plan;
+            return planOf(s, h, years);
         }
         trialPlan.begin(sorts[s], houses[h], rules[rule]);
         return trialPlan;
@@ -528,13 +525,12 @@ public final class RungHouse {
 
     private void weighSorts(int h, int years) {
         for (int s = 0; s < sortCount; s++) {
-            plans[s * HOUSES + h].know(years);
             weights[s] = FULL_WEIGHT;
         }
         for (int i = 0; i < now.yearsSize; i++) {
             long greatest = 0;
             for (int s = 0; s < sortCount; s++) {
-                longRun.reckonRung(plans[s * HOUSES + h], years, now.rungs[i]);
+                longRun.reckonRung(planOf(s, h, years), years, now.rungs[i]);
                 weights[s] = weights[s] * longRun.oddsOf(now.rungs[i], now.askings[i]) / MILLION;
                 greatest = Math.max(greatest, weights[s]);
             }
@@ -801,17 +797,12 @@ public final class RungHouse {
         private final int[] sparedChances = new int[SCRAPES];
         int size = 0;
         int allChances = 0;
-        private int allSpared = 0;
         boolean hasPains = false;
         int painCost = 0;
         int painSpares = 0;
 
         int chance(int i, boolean pains) {
             return pains ? sparedChances[i] : chances[i];
-        }
-
-        int chanceOfNone(boolean pains) {
-            return THOUSAND - (pains ? allSpared : allChances);
         }
 
         /** The sum of the scrape that a DRAW below a thousand brings; 0 if it brings none. */
@@ -878,10 +869,8 @@ public final class RungHouse {
         }
 
         private void spare() {
-            allSpared = 0;
             for (int i = 0; i < size; i++) {
                 sparedChances[i] = chances[i] * (100 - painSpares) / 100;
-                allSpared += sparedChances[i];
             }
         }
     }
@@ -894,14 +883,15 @@ public final class RungHouse {
         private final int[] lastMonths = new int[CLAUSES];
         private int size = 0;
 
-        boolean isAsked(int r, int m, int sum) {
+        /** The least sum that is asked for; 0 where no clause is so, as all is asked for there. */
+        int barOn(int r, int m) {
             for (int i = 0; i < size; i++) {
                 boolean isOfRung = r >= firstRungs[i] && r <= lastRungs[i];
                 if (isOfRung && m >= firstMonths[i] && m <= lastMonths[i]) {
-                    return sum >= bars[i];
+                    return bars[i];
                 }
             }
-            return true;
+            return 0;
         }
 
         void readFrom(Reader text) {
@@ -943,6 +933,8 @@ public final class RungHouse {
     /**
      * What the years cost a SORT in a HOUSE, by THE BEST WAY or by a RULE. As all is 0 behind the last year,
      * only the years that are left count, so what is known of some of them serves every number of years.
+     * Asking spares the more at once the greater a scrape is, and costs the same later for each: so there is a bar,
+     * and the scrapes asked for are all from some one on, by THE BEST WAY as by a RULE.
      */
     private static final class Plan {
         private Sort sort;
@@ -953,9 +945,14 @@ public final class RungHouse {
         private final int[] painedRungs = new int[MOST_YEARS + 1];
         private int known = 0;
         private final int[] table = new int[(MONTHS + 1) * COUNTS];
-        private final int[] askedScrapes = new int[MONTHS * COUNTS];
+        /** The first scrape asked for, by MONTH and ASKINGS; as many as there are, if none is. */
+        private final int[] firstAsked = new int[MONTHS * COUNTS];
+        /** What asking for a scrape spares at once; the chances, and what the house bears a MONTH, of it and all behind it. */
+        private final int[] spared = new int[SCRAPES];
+        private final int[] chanceFrom = new int[SCRAPES + 1];
+        private final int[] houseBearsFrom = new int[SCRAPES + 1];
+        private int scrapesOfMonth = 0;
         private int rung = 0;
-        private boolean pains = false;
 
         Plan(Sort ofSort, House inHouse) {
             sort = ofSort;
@@ -993,7 +990,7 @@ public final class RungHouse {
         /** Takes a year on a RUNG in hand, of which all that stands below tells; the years behind it must be known. */
         void openYear(int left, int r, boolean withPains) {
             rung = r;
-            pains = withPains && sort.hasPains;
+            sumScrapes(withPains && sort.hasPains);
             for (int k = 0; k < COUNTS; k++) {
                 table[MONTHS * COUNTS + k] = costs[(left - 1) * RUNGS + house.rungAfter(r, k)];
             }
@@ -1009,40 +1006,20 @@ public final class RungHouse {
         }
 
         boolean isAsked(int m, int k, int sum) {
-            if (rule != null) {
-                return rule.isAsked(rung, m, sum);
-            }
-            int borne = sum * THOUSAND + table[(m + 1) * COUNTS + k];
-            return house.bears(sum) * THOUSAND + table[(m + 1) * COUNTS + oneMore(k)] < borne;
+            return (sum - house.bears(sum)) * THOUSAND > costsLater(m, k);
         }
 
         int leastAsked(int m, int k) {
-            for (int i = 0; i < sort.size; i++) {
-                if ((askedScrapes[m * COUNTS + k] >> i & 1) != 0) {
-                    return sort.sums[i];
-                }
-            }
-            return NONE;
+            int i = firstAsked[m * COUNTS + k];
+            return i < sort.size ? sort.sums[i] : NONE;
         }
 
         int chanceAsked(int m, int k) {
-            int all = 0;
-            for (int i = 0; i < sort.size; i++) {
-                if ((askedScrapes[m * COUNTS + k] >> i & 1) != 0) {
-                    all += sort.chance(i, pains);
-                }
-            }
-            return all;
+            return chanceFrom[firstAsked[m * COUNTS + k]];
         }
 
         int houseBears(int m, int k) {
-            int all = 0;
-            for (int i = 0; i < sort.size; i++) {
-                if ((askedScrapes[m * COUNTS + k] >> i & 1) != 0) {
-                    all += sort.chance(i, pains) * (sort.sums[i] - house.bears(sort.sums[i]));
-                }
-            }
-            return all;
+            return houseBearsFrom[firstAsked[m * COUNTS + k]];
         }
 
         private void reckonCost(int left, int r) {
@@ -1059,19 +1036,42 @@ public final class RungHouse {
             painedRungs[left] = painedRungs[left] & ~(1 << r) | (pained ? 1 << r : 0);
         }
 
-        private void reckonMonth(int m, int k) {
-            int borne = inside(m + 1, k);
-            int asked = inside(m + 1, oneMore(k));
-            long all = (long) sort.chanceOfNone(pains) * borne;
-            int set = 0;
-            for (int i = 0; i < sort.size; i++) {
-                int sum = sort.sums[i];
-                boolean asks = isAsked(m, k, sum);
-                set = set | (asks ? 1 << i : 0);
-                all += (long) sort.chance(i, pains) * (asks ? house.bears(sum) * THOUSAND + asked : sum * THOUSAND + borne);
+        private void sumScrapes(boolean pains) {
+            scrapesOfMonth = 0;
+            chanceFrom[sort.size] = 0;
+            houseBearsFrom[sort.size] = 0;
+            for (int i = sort.size - 1; i >= 0; i--) {
+                int chance = sort.chance(i, pains);
+                int borneByHouse = sort.sums[i] - house.bears(sort.sums[i]);
+                spared[i] = borneByHouse * THOUSAND;
+                chanceFrom[i] = chanceFrom[i + 1] + chance;
+                houseBearsFrom[i] = houseBearsFrom[i + 1] + chance * borneByHouse;
+                scrapesOfMonth += chance * sort.sums[i];
             }
-            askedScrapes[m * COUNTS + k] = set;
-            table[m * COUNTS + k] = (int) (all / THOUSAND);
+        }
+
+        /** What one asking more in a MONTH costs behind it: nothing, where no more are counted. */
+        private int costsLater(int m, int k) {
+            return k < MOST_ASKINGS ? table[(m + 1) * COUNTS + k + 1] - table[(m + 1) * COUNTS + k] : 0;
+        }
+
+        private void reckonMonth(int m, int k) {
+            int later = costsLater(m, k);
+            int i = 0;
+            if (rule == null) {
+                while (i < sort.size && spared[i] <= later) {
+                    i++;
+                }
+            } else {
+                int bar = rule.barOn(rung, m);
+                while (i < sort.size && sort.sums[i] < bar) {
+                    i++;
+                }
+            }
+            firstAsked[m * COUNTS + k] = i;
+            // The sum over scrapes, and none, with what they have in common taken together; it is cut once, as a whole.
+            long whole = (long) inside(m + 1, k) + scrapesOfMonth - houseBearsFrom[i];
+            table[m * COUNTS + k] = (int) ((whole * THOUSAND + (long) chanceFrom[i] * later) / THOUSAND);
         }
     }
 
