@@ -117,6 +117,11 @@ public final class BestWayTest {
     RungHouse z = c.withHouse(new RungHouse(), 0, HOUSE);
     c.withSort(z, "scrape 10 1;scrape 11 1;");
     c.due("10 is the first sum, 11 above it", z.bar(0, 0, 1, 0, 0, 0, 0, false), 11);
+    c.withHouse(z, 1, "rung 5;rung 5;first 8;");
+    c.withSort(z, "scrape 1 1;scrape 2 1;scrape 3 1;scrape 4 1;scrape 5 1;scrape 6 1;scrape 7 1;scrape 8 1;");
+    c.due("none of eight", z.bar(1, 1, 3, 0, 0, 5, 2, false), Check.NONE);
+    c.due("none of eight, odds", z.odds(1, 1, -1, 3, 0, 0), 1000000);
+    c.due("none of eight, borne", z.cost(1, 1, 1, 0, 0), 5000 + 12 * 36);
     // Where the lower rung is the cheaper one, one asks for nothing's sake.
     c.withHouse(z, 1, "rung 0;rung 500;down 1;first 99;");
     c.due("asks to go down", z.bar(0, 1, 2, 0, 1, 11, 0, false), 10);
@@ -131,6 +136,7 @@ public final class BestWayTest {
     c.due("none", x.fixed(1, 0, 0, 1, 0, 0), 136000);
     c.due("none, two years", x.fixed(1, 0, 0, 2, 0, 0), 232000);
     c.due("none, two years, rung 1", x.fixed(1, 0, 0, 2, 0, 1), 192000);
+    c.due("none, thirty years", x.fixed(1, 0, 0, 30, 0, 0), 136000 + 29 * 96000);
     c.due("by rung, 0", x.fixed(2, 0, 0, 1, 0, 0), 112000);
     c.due("by rung, 1", x.fixed(2, 0, 0, 1, 0, 1), 96000);
     c.due("the first that is so", x.fixed(3, 0, 0, 1, 0, 0), 118000);
@@ -349,6 +355,8 @@ public final class BestWayTest {
     c.due("pains ahead", x.takes(1, 0, 2, 0, 0), 1);
     c.withHouse(x, 0, "rung 7;first 0;");
     c.due("behind", x.cost(0, 0, 2, 0, 0), 14000);
+    c.due("all thirty years", x.cost(0, 0, 30, 0, 0), 210000);
+    c.due("all thirty years with pains", x.takes(1, 0, 30, 0, 0), 0);
     c.due("pains behind", x.takes(1, 0, 2, 0, 0), 0);
     Check.tell(x, "rung 9;rung 1;enter 9;");
     c.due("a fault", x.house(0), -15);

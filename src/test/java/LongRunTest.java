@@ -199,6 +199,9 @@ public final class LongRunTest {
     c.due("sort 3", x.lives(3, 0, 0, 1), Check.UNKNOWN);
     c.due("house 2", x.lives(0, 2, 0, 1), Check.UNKNOWN);
     c.due("the seed stayed", x.seed(0), 5);
+    c.withRule(x, "bar 30;");
+    c.due("the bar itself is asked for", x.lives(0, 0, 3, 1), 100 + scrapesDrawn(0, 100) * 10);
+    x.seed(0);
     // A DRAW that is as much as all Q so far brings the next scrape.
     c.withSort(x, "scrape 1 468;scrape 500 1;");
     c.due("by the second draw", x.lives(3, 0, 1, 1), 100 + drawn(new int[] {468, 1}, new int[] {1, 10}));
