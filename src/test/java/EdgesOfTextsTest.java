@@ -128,6 +128,18 @@ public final class EdgesOfTextsTest {
     c.reads("sort", "scrape 1 1 1;", -11, 11);
     c.reads("sort", "scrape 1 1", -11, 10);
     // Of a MILLION 1000 have none in MONTH 0, of these 1 in MONTH 1, and of one nobody goes on.
+    // Eight scrapes of which F covers all: 36 coins, 1 of 1000 each, twelve times; none is asked for, and few are drawn.
+    RungHouse e = c.withRule(c.withSort(withHouse("rung 0;first 8;"), EIGHT), "bar 999;");
+    c.due("all eight borne", e.cost(0, 0, 1, 0, 0), 12 * 36);
+    c.due("none of eight asked for", e.bar(0, 0, 1, 0, 0, 11, 0, false), Check.NONE);
+    c.due("none of eight asked for in the long run", e.odds(0, 0, -1, 1, 0, 0), 1000000);
+    c.due("none of eight by a rule", e.fixed(0, 0, 0, 1, 0, 0), 12 * 36);
+    c.withHouse(e, 1, "rung 0;first 7;");
+    c.due("the eighth asked for", e.bar(0, 1, 1, 0, 0, 11, 0, false), 8);
+    // 1 of 1000 a month: 999000, 998001, 997003, 996006, ..
+    c.due("its Q alone", e.odds(0, 1, -1, 1, 0, 0) / 1000, 988);
+    e.seed(1);
+    c.due("none of eight drawn", e.lives(0, 0, 0, 1), 0);
     RungHouse z = c.withSort(withHouse("rung 0;"), "scrape 999 999;");
     c.withRule(z, "");
     c.due("Q of a thousand", z.odds(0, 0, 0, 1, 0, 0), 1);
@@ -219,6 +231,19 @@ public final class EdgesOfTextsTest {
     c.reads("house", "rung", -11, 4);
     c.reads("house", " ".repeat(300), -15, 300);
     c.reads("house", " ".repeat(294) + "rung 1", -11, 300);
+    c.reads("house", " ".repeat(296) + "rung", -11, 300);
+    c.reads("house", " ".repeat(297) + "run", -11, 297);
+    c.reads("house", " ".repeat(291) + "rung 1000", -12, 296);
+    c.reads("house", " ".repeat(299) + ";", -11, 299);
+    // Bytes of an earlier text that lie beyond the end of this one are not of it.
+    String[] earlier = {"rungs 123456;", "rung 12;", "rung 1;", "rung 1 kept;"};
+    String[] later = {"rung", "rung 1", "rung 1", "rung 1 kept"};
+    for (int i = 0; i < 4; i++) {
+      RungHouse x = new RungHouse();
+      Check.tell(x, earlier[i]).house(0);
+      c.due("'" + later[i] + "' behind '" + earlier[i] + "'", Check.tell(x, later[i]).house(0), -11);
+      c.due("'" + later[i] + "' behind '" + earlier[i] + "': fault", x.fault(), later[i].length());
+    }
     // A number of four figures that cannot stand there: 1 is less than 2. A Q out of its bounds that is too much as well: 2 is less than 4.
     c.reads("house", "1000", -11, 0);
     c.reads("house", "rung 1 1000;", -11, 7);
@@ -229,6 +254,12 @@ public final class EdgesOfTextsTest {
     c.reads("house", "rung 1;run 1;", -11, 7);
     c.reads("house", "rung 1;run", -11, 7);
     c.reads("house", "rung 1;  zap", -11, 9);
+    c.reads("house", "sung 1;", -11, 0);
+    c.reads("house", "runz 1;", -11, 0);
+    c.reads("house", "rungz 1;", -11, 0);
+    c.reads("house", "runga 1;", -11, 0);
+    c.reads("house", "zrung 1;", -11, 0);
+    c.reads("house", "rung 1 keptz;", -11, 7);
     c.reads("house", "rung 1 kepts;", -11, 7);
     c.reads("house", "rung 1 kep", -11, 7);
     c.reads("house", "rung 1 up 2;", -11, 7);
@@ -440,6 +471,18 @@ public final class EdgesOfTextsTest {
     for (int what = 0; what < 6; what++) c.due("nothing is left of it: " + what, x.told(0, what), anew[what]);
     c.due("nothing is left of its rungs", x.pays(0, 1), Check.UNKNOWN);
     c.due("the empty text", x.house(0), -15);
+    String[] words = {"up", "down", "first", "enter"};
+    for (int i = 0; i < 4; i++) {
+      RungHouse one = new RungHouse();
+      c.due(words[i] + " 2", Check.tell(one, words[i] + " 2;rung 1;rung 1;rung 1 kept;").house(1), 3);
+      c.due("told anew without " + words[i], Check.tell(one, "rung 1;rung 1;rung 1;").house(1), 3);
+      c.due(words[i] + " is untold then", one.told(1, i + 1), i == 0 ? 1 : i == 1 ? 3 : 0);
+      c.due("none is kept then", one.told(1, 5), 0);
+      c.due(words[i] + " 2 with a fault", Check.tell(one, words[i] + " 2;rung 1 kept;zap").house(0), -11);
+      c.due("then without a fault", Check.tell(one, "rung 1;rung 1;rung 1;").house(0), 3);
+      c.due(words[i] + " is untold behind the fault", one.told(0, i + 1), i == 0 ? 1 : i == 1 ? 3 : 0);
+      c.due("none is kept behind the fault", one.told(0, 5), 0);
+    }
 
     c.says("Promise 3", "UNKNOWN (0, 1; THE TEXT stays).");
     RungHouse z = Check.tell(new RungHouse(), "rung 5;");
@@ -465,6 +508,14 @@ public final class EdgesOfTextsTest {
     c.due("the empty text", x.sort(), -15);
     c.due("the second", Check.tell(x, "scrape 2 1;").sort(), 1);
     c.due("no pains are left over", x.scrapes(1, 2), Check.NONE);
+    c.due("eight scrapes, pains and a fault", Check.tell(x, EIGHT.replace("8 1;", "8 993;") + "pains 0 100;zap").sort(), -11);
+    c.due("the third", Check.tell(x, "scrape 5 6;").sort(), 2);
+    int[] third = {1, 6, -1, -1, 5, -1};
+    for (int what = 0; what < 6; what++) c.due("nothing is left of the fault: " + what, x.scrapes(2, what), third[what]);
+    c.withRule(c.withHouse(x, 0, "rung 0;"), "bar 999;");
+    // From the seed 0 the draws are 0 and then 468 and more: one scrape of 5.
+    x.seed(0);
+    c.due("nor by draws", x.lives(2, 0, 0, 1) % 5, 0);
 
     c.says("Promise 4", "NOT: more than 200 bytes; FULL (THE TEXT stays, of both).");
     Check.tell(x, " ".repeat(190) + "scrape 1 1;");
@@ -473,8 +524,7 @@ public final class EdgesOfTextsTest {
     c.due("300 bytes", Check.tell(x, " ".repeat(99)).sort(), Check.NOT);
     c.due("stay all", x.count(4), 300);
     x.house(0);
-    c.due("200 bytes", Check.tell(x, " ".repeat(189) + "scrape 3 1;").sort(), 2);
-    c.due("the fourth", Check.tell(x, "scrape 4 1;").sort(), 3);
+    c.due("200 bytes: the fourth", Check.tell(x, " ".repeat(189) + "scrape 4 1;").sort(), 3);
     c.due("a fifth", Check.tell(x, "scrape 5 1;").sort(), Check.FULL);
     c.due("stays", x.count(4), 11);
     c.due("and again", x.sort(), Check.FULL);
@@ -492,13 +542,17 @@ public final class EdgesOfTextsTest {
       c.due("one rule as before", z.count(1), 1);
     }
     c.due("the empty text", z.rule(), 1);
+    c.withSort(c.withHouse(z, 0, TEN), "scrape 30 100;");
+    c.due("nothing is left of the faults: all is asked for", z.fixed(1, 0, 0, 1, 0, 0), 1000);
+    c.due("two clauses and a fault", Check.tell(z, "bar 1 rungs 3 5 months 4 6;bar 2;zap").rule(), -11);
+    c.due("a clause for all", Check.tell(z, "bar 31;").rule(), 2);
+    for (int r = 0; r < 10; r++) c.due("nothing is asked for on rung " + r, z.fixed(2, 0, 0, 1, 0, r), 37000);
 
     c.says("Promise 5", "NOT: more than 120 bytes; FULL (THE TEXT stays, of both).");
     c.due("121 bytes", Check.tell(z, " ".repeat(115) + "bar 1;").rule(), Check.NOT);
     c.due("stay", z.count(4), 121);
     z.house(0);
-    c.due("120 bytes", Check.tell(z, " ".repeat(114) + "bar 1;").rule(), 2);
-    c.due("the fourth", z.rule(), 3);
+    c.due("120 bytes: the fourth", Check.tell(z, " ".repeat(114) + "bar 1;").rule(), 3);
     c.due("a fifth of no bytes", z.rule(), Check.FULL);
     c.due("a fifth", Check.tell(z, "bar 1;").rule(), Check.FULL);
     c.due("stays", z.count(4), 6);

@@ -213,6 +213,7 @@ public final class EdgesOfTheBestWayTest {
     c.due("the first that is so asks", notAsked("bar 30 months 3 5;bar 31 months 5 6;", 0), 3000);
     c.due("the first that is so does not", notAsked("bar 31 months 5 6;bar 30 months 3 5;", 0), 6000);
     c.due("the sixth", notAsked("bar 1 rungs 9 9;".repeat(5) + "bar 31;", 0), 36000);
+    c.due("none of six", notAsked("bar 31 rungs 9 9;".repeat(6), 0), 0);
     // S of B and less than B beside one another: half of them ask in each of eleven months (cut), in MONTH 11 none.
     RungHouse x = c.withHouse(new RungHouse(), 0, "rung 0;rung 0;down 1;");
     c.withSort(x, "scrape 30 500;scrape 31 500;");
@@ -276,6 +277,10 @@ public final class EdgesOfTheBestWayTest {
     row.scrape(0, 40, true);
     for (int m = 1; m < 11; m++) row.scrape(m, 11, true);
     c.due("asked once, all above F goes on", row.judge(0, 0, 2, 0, 0), Check.NONE);
+    row.keep(0);
+    row.scrape(11, 11, true);
+    c.due("all twelve", row.judge(0, 0, 2, 0, 0), Check.NONE);
+    row.goBack(0);
     row.scrape(11, 11, false);
     c.due("the last of twelve", row.judge(0, 0, 2, 0, 0), 11);
     RungHouse first = example();
@@ -360,6 +365,9 @@ public final class EdgesOfTheBestWayTest {
     c.due("none told: without", x.bar(0, 0, 2, 0, 0, 0, 0, true), 30);
     c.due("asked already", x.bar(0, 0, 2, 0, 0, 11, 3, false), 30);
     c.due("none at MONTH 11", x.bar(0, 0, 2, 0, 0, 11, 0, false), Check.NONE);
+    c.due("in the last year", x.bar(0, 0, 2, 1, 0, 11, 0, false), 30);
+    c.due("in the last of thirty", x.bar(0, 0, 30, 29, 1, 11, 0, false), 30);
+    c.due("in the last but one of thirty", x.bar(0, 0, 30, 28, 1, 11, 0, false), Check.NONE);
 
     c.says("Promise 14", "UNKNOWN, OUTSIDE (m 0 .. 11).");
     c.bounds("s", 0, 1, Check.UNKNOWN, s -> x.bar(s, 0, 2, 0, 0, 0, 0, true));
@@ -423,6 +431,8 @@ public final class EdgesOfTheBestWayTest {
     x.clear();
     x.scrape(7, 10, true);
     c.due("scrape 0", x.judge(0, 0, 2, 0, 0), 0);
+    x.clear();
+    c.due("no life any more", x.judge(0, 0, 2, 0, 0), Check.NONE);
 
     c.says("Promise 17", "UNKNOWN, OUTSIDE.");
     c.bounds("s", 0, 1, Check.UNKNOWN, s -> x.judge(s, 0, 2, 0, 0));

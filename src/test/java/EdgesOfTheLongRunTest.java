@@ -63,6 +63,12 @@ public final class EdgesOfTheLongRunTest {
     c.due("and a year on", x.standing(0, 0, -1, 2, 2, 1), 900000);
     c.due("pains, too", x.standing(2, 0, -1, 1, 1, 1), 540363);
     c.due("no pains by a rule", x.standing(2, 0, 0, 1, 1, 1), 282431);
+    // Rungs for 100, 60, 60: from the top the first asking costs nothing later, from rung 1 it does; each RUNG has its own odds.
+    RungHouse own = c.withSort(c.withHouse(new RungHouse(), 0, "rung 100;rung 60;rung 60;down 1;first 10;enter 2;"), "scrape 30 100;");
+    c.due("odds on the top", own.odds(0, 0, -1, 2, 2, 0), 282431);
+    c.due("odds on rung 1", own.odds(0, 0, -1, 2, 1, 0), 900000);
+    c.due("odds on the top again", own.odds(0, 0, -1, 2, 2, 0), 282431);
+    c.due("stay on the top", own.standing(0, 0, -1, 2, 1, 2), 282431);
     RungHouse z = keptRungs();
     int[][] due = {{0, 1000000, 0, 0}, {0, 333000, 667000, 0}, {0, 110889, 444222, 444889}, {3, 36926, 221887, 741184}};
     for (int t = 0; t < 4; t++) {
@@ -180,6 +186,22 @@ public final class EdgesOfTheLongRunTest {
     c.due("as none does", w.think(1, 0, 1), 0);
     w.year(0, 0);
     c.due("for good", w.think(0, 0, 1), 0);
+    // 57549 and 45218; then 100000 and 78573: 100 times 100000 / 178573 is 55.9995.
+    RungHouse near = c.withHouse(new RungHouse(), 0, "rung 0;");
+    c.withSort(near, "scrape 30 45;");
+    c.withSort(near, "scrape 30 64;");
+    near.year(0, 0);
+    c.due("just below 56", near.think(0, 0, 1), 55);
+    c.due("just above 44", near.think(1, 0, 1), 44);
+    // 100000 and 2 behind the first year, 0 and 1 behind the second: 1 is above 0, and is made great.
+    RungHouse one = c.withHouse(new RungHouse(), 0, "rung 0;");
+    c.withSort(one, "scrape 20 500;scrape 30 500;");
+    c.withSort(one, "scrape 30 5;");
+    one.year(0, 3);
+    c.due("who asks always", one.think(0, 0, 1), 99);
+    one.year(0, 0);
+    one.year(0, 0);
+    c.due("a weight of 1 is made great", one.think(1, 0, 1), 100);
     RungHouse best = example();
     // Over one year all ask for all; over two sort 0 asks in MONTH 0 or not at all, and is the one who has not asked.
     best.year(0, 0);

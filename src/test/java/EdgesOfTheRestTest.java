@@ -71,6 +71,15 @@ public final class EdgesOfTheRestTest {
     c.due("nothing behind one year", x.keepRung(0, 0, 1, 3), 0);
     c.due("it is not kept by that", x.told(0, 5), 0);
     c.due("nor is COST another", x.cost(0, 0, 2, 0, 3), 170000);
+    // Neither another house that was told behind it, nor what was reckoned by a rule or for another sort, may linger.
+    RungHouse other = alwaysAsks("rung 100;rung 81;rung 72;rung 70;down 1;");
+    c.withHouse(other, 1, "rung 9;rung 8;rung 7;rung 6;");
+    c.withSort(other, "scrape 1 1;");
+    c.withRule(other, "bar 999;");
+    c.due("another house was told", other.keepRung(0, 0, 2, 3), 19000);
+    c.allowed("another house and sort", other.fixed(0, 1, 1, 2, 0, 3));
+    c.due("a rule was looked at", other.keepRung(0, 0, 2, 3), 19000);
+    c.due("another sort was looked at", other.keepRung(1, 0, 1, 3) + other.keepRung(0, 0, 2, 3), 19000);
     RungHouse cheap = alwaysAsks("rung 0;rung 10;rung 10;rung 10;down 1;");
     c.due("below 0, as rung 0 is the cheaper one", cheap.keepRung(0, 0, 2, 3), -10000);
   }
@@ -95,6 +104,23 @@ public final class EdgesOfTheRestTest {
     c.due("over two years from 1: alike", x.leave(0, 0, 2, 1), 0);
     c.withHouse(x, 1, "rung 100;rung 59;enter 1;");
     c.due("over two years: less", x.leave(0, 0, 2, 1), 1);
+    // What one bears there tells as well, and of the SORT that is meant: 5 of 10 coins a month, or 99.
+    RungHouse z = c.withHouse(new RungHouse(), 0, "rung 100;first 5;");
+    c.withHouse(z, 1, "rung 0;first 99;");
+    c.withSort(z, "scrape 10 500;");
+    c.withSort(z, "scrape 99 500;");
+    c.due("130 to 60", z.leave(0, 0, 1, 0), 1);
+    c.due("60 to 130", z.leave(0, 1, 1, 0), 0);
+    c.due("130 to 594", z.leave(1, 0, 1, 0), 0);
+    c.due("594 to 130", z.leave(1, 1, 1, 0), 1);
+    RungHouse w = c.withHouse(new RungHouse(), 0, "rung 20;first 50;");
+    c.withHouse(w, 1, "rung 30;first 99;");
+    c.withSort(w, "scrape 3 500;");
+    c.withSort(w, "scrape 99 500;");
+    c.due("38 to 48", w.leave(0, 0, 1, 0), 0);
+    c.due("48 to 38", w.leave(0, 1, 1, 0), 1);
+    c.due("320 to 624", w.leave(1, 0, 1, 0), 0);
+    c.due("624 to 320", w.leave(1, 1, 1, 0), 1);
   }
 
   private static void padding() {
@@ -115,44 +141,109 @@ public final class EdgesOfTheRestTest {
     RungHouse t = c.withSort(c.withHouse(new RungHouse(), 0, "rung 1;rung 0;rung 0;down 1;"), "scrape 1 1;");
     c.due("cut above 0", t.pad(0, 0, 2, 2, 10, 0, 1, 1, 1), 970);
     c.due("cut below 0", t.pad(0, 0, 2, 2, 10, 0, 1, 0, 1), -19);
-    c.due("no pains", x.pad(1, 0, 2, 0, 0, 0, 30, 50, 100), -20000);
-    c.due("no pains that would tell", x.in(1, 0, 2, 0, 0, 1, 1, true) < x.in(1, 0, 2, 0, 0, 1, 1, false) ? 1 : 0, 1);
+    // With three rungs what is behind MONTH 1 is another thing with pains.
+    c.withHouse(x, 1, "rung 100;rung 60;rung 33;down 1;first 10;");
+    int honest = x.in(1, 1, 4, 0, 2, 1, 1, false), seen = x.in(1, 1, 4, 0, 2, 1, 3, false);
+    c.due("no pains", x.pad(1, 1, 4, 2, 0, 0, 30, 50, 100), -20000 - seen + honest);
+    int pained = x.in(1, 1, 4, 0, 2, 1, 3, true) - x.in(1, 1, 4, 0, 2, 1, 1, true);
+    c.due("pains would tell", pained == seen - honest ? 1 : 0, 0);
+    x.in(1, 1, 4, 3, 0, 0, 0, true);
+    c.due("though another year was looked at", x.pad(1, 1, 4, 2, 0, 0, 30, 50, 100), -20000 - seen + honest);
   }
 
   private static final String SENTENCE_OF_SETTING = "THE SETTING: of D 1 to 3, U 1 to 4, F 0, 10, 20 (in place of those of a HOUSE; D first, then U, then F rising) "
       + "that by which the most SORTS take pains on the most RUNGS in year 0 of Y years (RUNGS and SORTS counted), and EVEN of no SORT in year 10 is below "
       + "a told least; of like ones the first; told as 100 times D, 10 times U, and F / 10; NONE.";
 
-  /** The setting found call by call: each of the 36 is told as a house of its own. */
+  /** A house, a sort, Y and a least EVEN for each of the 36, and for none. */
+  private static final String[] SETTINGS = {
+      "-1|rung 7;enter 0;|scrape 5 5;scrape 353 58;pains 8 47;|4|0",
+      "110|rung 88;enter 0;|scrape 5 9;scrape 382 7;pains 6 51;|3|0",
+      "111|rung 52;enter 0;|scrape 8 235;scrape 65 6;pains 3 48;|3|0",
+      "112|rung 9;enter 0;|scrape 25 51;scrape 73 2;pains 13 72;|3|0",
+      "120|rung 79;rung 25;rung 9;enter 2;|scrape 26 65;scrape 265 29;pains 5 85;|2|0",
+      "121|rung 50;rung 26;rung 6;enter 2;|scrape 59 81;scrape 75 65;pains 11 76;|4|0",
+      "122|rung 53;rung 3;rung 5;enter 1;|scrape 7 150;scrape 76 84;pains 3 75;|1|0",
+      "130|rung 108;rung 67;rung 36;rung 8;enter 1;|scrape 14 68;scrape 215 25;pains 2 53;|4|0",
+      "131|rung 64;rung 24;rung 19;rung 0;enter 1;|scrape 31 7;scrape 86 65;pains 7 57;|2|0",
+      "132|rung 9;rung 16;rung 0;rung 0;enter 1;|scrape 38 30;scrape 225 3;pains 6 86;|1|0",
+      "140|rung 56;rung 0;rung 0;rung 0;rung 0;enter 2;|scrape 32 98;scrape 400 1;pains 19 70;|2|0",
+      "141|rung 53;rung 41;rung 0;rung 0;rung 0;enter 1;|scrape 19 20;scrape 71 97;pains 4 66;|4|0",
+      "142|rung 8;rung 0;rung 0;rung 0;rung 0;enter 4;|scrape 21 66;scrape 247 3;pains 7 75;|2|0",
+      "210|rung 140;rung 147;rung 88;enter 2;|scrape 25 112;scrape 101 24;pains 13 41;|2|0",
+      "211|rung 0;rung 21;rung 97;enter 0;|scrape 42 74;scrape 194 3;pains 5 85;|3|0",
+      "212|rung 7;rung 0;rung 66;enter 0;|scrape 48 93;scrape 155 25;pains 13 52;|1|0",
+      "220|rung 131;rung 115 kept;rung 84;rung 67;rung 8;enter 4;|scrape 29 4;scrape 257 23;pains 21 82;|4|-46363",
+      "221|rung 118;rung 91;rung 34;enter 1;|scrape 5 241;scrape 254 24;pains 28 75;|2|0",
+      "222|rung 79;rung 89;rung 71;enter 1;|scrape 10 5;scrape 112 40;pains 7 53;|4|0",
+      "230|rung 165;rung 161;rung 114;rung 58;rung 0;enter 4;|scrape 6 2;scrape 142 36;pains 11 80;|2|0",
+      "231|rung 84;rung 89;rung 43;rung 3;rung 0;enter 3;|scrape 50 83;scrape 90 7;pains 16 57;|2|0",
+      "232|rung 130;rung 80;rung 88;rung 83;enter 0;|scrape 13 148;scrape 252 96;pains 22 62;|1|0",
+      "240|rung 195;rung 171;rung 127;rung 107;rung 77;rung 25;enter 0;|scrape 40 2;scrape 375 26;pains 19 58;|4|5092",
+      "241|rung 85;rung 43;rung 0;rung 0;rung 0;rung 2;enter 4;|scrape 8 44;scrape 225 33;pains 11 35;|2|-9999999",
+      "242|rung 32;rung 3;rung 0;rung 0;rung 0;enter 3;|scrape 6 5;scrape 132 70;pains 19 58;|2|-9999999",
+      "310|rung 38;rung 33;rung 38;rung 0;enter 0;|scrape 42 7;scrape 212 51;pains 12 77;|2|-27662",
+      "311|rung 0 kept;rung 0;rung 42;rung 86;enter 3;|scrape 14 100;scrape 368 5;pains 9 62;|2|0",
+      "312|rung 5;rung 56;rung 138;rung 128;enter 2;|scrape 29 6;scrape 73 90;pains 18 39;|3|0",
+      "320|rung 150;rung 91;rung 49;rung 7;rung 0;rung 0 kept;enter 5;|scrape 52 1;scrape 385 53;pains 14 18;|4|-9999999",
+      "321|rung 180;rung 133;rung 141;rung 100;rung 70;enter 1;|scrape 6 131;scrape 175 48;pains 21 46;|2|0",
+      "322|rung 117;rung 81;rung 89;rung 55;enter 2;|scrape 44 75;scrape 345 11;pains 12 27;|2|0",
+      "330|rung 163;rung 162;rung 117;rung 61 kept;rung 71;rung 15;enter 1;|scrape 15 15;scrape 287 34;pains 27 63;|3|-45187",
+      "331|rung 157;rung 128;rung 125;rung 78;enter 0;|scrape 11 19;scrape 239 46;pains 30 77;|2|0",
+      "332|rung 113;rung 54;rung 57;rung 25;enter 2;|scrape 6 191;scrape 133 21;pains 25 66;|2|0",
+      "340|rung 141 kept;rung 136;rung 78;rung 25 kept;rung 1;rung 0;rung 0;enter 6;|scrape 13 41;scrape 72 48;pains 26 58;|2|0",
+      "341|rung 128;rung 68;rung 69;rung 76;rung 36;enter 1;|scrape 35 4;scrape 255 8;pains 12 85;|3|0",
+      "342|rung 7;rung 0;rung 0;rung 8;rung 13;enter 0;|scrape 32 285;scrape 311 4;pains 17 79;|2|0"
+  };
+
   private static void settings() {
     c.says(PART, SENTENCE_OF_SETTING);
+    for (String row : SETTINGS) {
+      String[] parts = row.split("[|]");
+      int due = Integer.parseInt(parts[0]), years = Integer.parseInt(parts[3]), least = Integer.parseInt(parts[4]);
+      RungHouse x = c.withHouse(new RungHouse(), 0, parts[1] + "up 9;down 9;first 99;");
+      c.withSort(x, parts[2]);
+      c.withHouse(x, 1, "rung 1;");
+      c.due(row, x.setting(0, years, least), due);
+      c.due(row + " call by call", settingByCalls(parts[1], new String[] {parts[2]}, years, least), due);
+      for (int what = 1; what <= 3; what++) c.due("the house stays as it was: " + what, x.told(0, what), what == 3 ? 99 : 9);
+    }
+    // Several SORTS: their RUNGS are counted together.
     String[] houses = {"rung 120;rung 90;rung 70 kept;rung 55;rung 40;enter 1;", "rung 300;rung 40;rung 35;rung 30;rung 20;rung 10;enter 3;"};
     String[][] sorts = {{"scrape 15 60;scrape 60 30;pains 6 40;", "scrape 25 90;pains 4 25;"}, {"scrape 90 40;pains 9 50;", "scrape 40 60;pains 12 60;", "scrape 12 200;pains 3 70;"}};
-    int[] leasts = {-9999999, 0, 10000, 20000, 25000, 30000, 40000, 45000, 50000};
-    for (int example = 0; example < 2; example++) {
+    for (int i = 0; i < 2; i++) {
       for (int years : new int[] {1, 2, 5, 12}) {
-        int[] most = new int[leasts.length], due = new int[leasts.length];
-        java.util.Arrays.fill(most, -1);
-        java.util.Arrays.fill(due, Check.NONE);
-        for (int i = 0; i < 36; i++) {
-          int d = 1 + i / 12, u = 1 + i / 3 % 4, f = i % 3;
-          RungHouse x = c.withHouse(new RungHouse(), 1, houses[example] + "up " + d + ";down " + u + ";first " + 10 * f + ";");
-          int pained = 0, even = Integer.MAX_VALUE;
-          for (int s = 0; s < sorts[example].length; s++) {
-            c.withSort(x, sorts[example][s]);
-            for (int r = 0; r < x.told(1, 0); r++) pained += x.takes(s, 1, years, 0, r);
-            even = Math.min(even, x.even(s, 1, -1, years, 10, 2));
-          }
-          for (int j = 0; j < leasts.length; j++) {
-            if (even >= leasts[j] && pained > most[j]) { most[j] = pained; due[j] = 100 * d + 10 * u + f; }
-          }
+        RungHouse x = c.withHouse(new RungHouse(), 0, houses[i]);
+        for (String sort : sorts[i]) c.withSort(x, sort);
+        for (int least : new int[] {-9999999, 0, 25000, 40000, 50000}) {
+          c.due(houses[i] + " " + years + " years, " + least, x.setting(0, years, least), settingByCalls(houses[i], sorts[i], years, least));
         }
-        RungHouse x = c.withHouse(new RungHouse(), 0, houses[example] + "up 9;down 9;first 99;");
-        for (String sort : sorts[example]) c.withSort(x, sort);
-        for (int j = 0; j < leasts.length; j++) c.due(houses[example] + " " + years + " years, " + leasts[j], x.setting(0, years, leasts[j]), due[j]);
-        for (int what = 1; what <= 3; what++) c.due("the house stays as it was: " + what, x.told(0, what), what == 3 ? 99 : 9);
       }
     }
+    // What was reckoned of another house must not linger: ten rungs on which pains are taken, then one.
+    RungHouse z = c.withHouse(new RungHouse(), 0, "rung 100;");
+    c.withSort(z, "scrape 30 500;scrape 31 500;pains 1 50;");
+    c.withHouse(z, 1, "rung 100;".repeat(10) + "first 99;");
+    c.due("ten rungs", z.setting(1, 1, -9999999), 111);
+    c.due("one rung", z.setting(0, 1, -9999999), 111);
+    c.due("one rung and a least", z.setting(0, 1, 0), 112);
+  }
+
+  /** The setting found call by call: each of the 36 is told as a house of its own. */
+  private static int settingByCalls(String house, String[] sorts, int years, int least) {
+    int most = -1, answer = Check.NONE;
+    for (int i = 0; i < 36; i++) {
+      int d = 1 + i / 12, u = 1 + i / 3 % 4, f = i % 3;
+      RungHouse x = c.withHouse(new RungHouse(), 1, house + "up " + d + ";down " + u + ";first " + 10 * f + ";");
+      int pained = 0, even = Integer.MAX_VALUE;
+      for (int s = 0; s < sorts.length; s++) {
+        c.withSort(x, sorts[s]);
+        for (int r = 0; r < x.told(1, 0); r++) pained += x.takes(s, 1, years, 0, r);
+        even = Math.min(even, x.even(s, 1, -1, years, 10, 2));
+      }
+      if (even >= least && pained > most) { most = pained; answer = 100 * d + 10 * u + f; }
+    }
+    return answer;
   }
 
   /** What lies just beyond the bounds of D, U and F would do, and is not tried. */
@@ -259,6 +350,22 @@ public final class EdgesOfTheRestTest {
     c.withSort(t, "scrape 20 500;scrape 30 500;");
     c.withRule(t, "");
     c.due("four years down", t.lives(0, 0, 0, 4), 10 + 7 + 4 + 1);
+    // A month without a scrape is no asking, even where all is asked for; and S of B itself is asked for.
+    RungHouse b = c.withHouse(new RungHouse(), 0, "rung 100;rung 60;down 1;first 10;");
+    c.withSort(b, "scrape 30 1;");
+    c.withSort(b, "scrape 30 500;scrape 31 500;");
+    c.withRule(b, "");
+    c.withRule(b, "bar 0;");
+    c.withRule(b, "bar 30;");
+    c.withRule(b, "bar 32;");
+    c.due("from the seed 1 no DRAW of 24 is 0", drawsBelow(1, 1, 24), 0);
+    for (int rule = 0; rule < 2; rule++) {
+      b.seed(1);
+      c.due("two years of nothing by rule " + rule, b.lives(0, 0, rule, 2), 160);
+    }
+    c.due("S of B or more", b.lives(1, 0, 2, 2), 200 + 24 * 10);
+    b.seed(0);
+    c.due("S less than B", b.lives(1, 0, 3, 1), 100 + 31 * 12 - drawsBelow(0, 500, 12));
   }
 
   private static void images() {
@@ -422,6 +529,57 @@ public final class EdgesOfTheRestTest {
     c.bounds("what", 0, 4, Check.OUTSIDE, what -> x.count(what));
   }
 
+  /** MONTHS, S, whether ASKED; RUNGS, ASKINGS: all comes back. */
+  private static void imagesHoldAll() {
+    RungHouse x = example();
+    x.scrape(11, 50, false);
+    x.year(1, 0);
+    x.keep(0);
+    int thought = x.think(1, 0, 1);
+    x.clear();
+    x.scrape(0, 31, true);
+    x.year(0, 3);
+    x.keep(1);
+    int thoughtThen = x.think(1, 0, 1);
+    c.due("other years, another thought", thought == thoughtThen ? 1 : 0, 0);
+    x.goBack(0);
+    c.due("as the best way: in MONTH 11 50 was borne", x.judge(0, 0, 2, 0, 1), Check.NONE);
+    c.due("MONTH 11 is the last", x.scrape(11, 1, true), Check.NOT);
+    c.due("its years", x.think(1, 0, 1), thought);
+    x.goBack(1);
+    c.due("as the best way: in MONTH 0 31 was asked for", x.judge(0, 0, 2, 0, 1), Check.NONE);
+    c.due("its years then", x.think(1, 0, 1), thoughtThen);
+    c.due("MONTH 1 is next", x.scrape(1, 1, true), 2);
+    x.clear();
+    x.scrape(0, 31, false);
+    x.keep(0);
+    x.goBack(1);
+    c.due("asked for", x.judge(0, 0, 2, 0, 1), Check.NONE);
+    x.goBack(0);
+    c.due("borne", x.judge(0, 0, 2, 0, 1), 0);
+    x.clear();
+    for (int k = 0; k < 2; k++) {
+      x.year(1, k);
+      x.keep(k);
+      x.clear();
+    }
+    int none = thinkAt(x, 0), once = thinkAt(x, 1);
+    c.due("its ASKINGS", none == once ? 1 : 0, 0);
+    x.clear();
+    x.year(1, 0);
+    x.keep(0);
+    x.clear();
+    x.year(9, 0);
+    x.keep(1);
+    c.allowed("its RUNG 1", thinkAt(x, 0));
+    c.due("its RUNG 9", thinkAt(x, 1), Check.NOT);
+  }
+
+  private static int thinkAt(RungHouse x, int image) {
+    x.goBack(image);
+    return x.think(1, 0, 1);
+  }
+
   private static void keepAndGoBack() {
     RungHouse x = example();
     c.says("Promise 33", "UNKNOWN, NOT: it was not kept.");
@@ -464,6 +622,7 @@ public final class EdgesOfTheRestTest {
     c.due("an image is not changed by what comes behind", z.goBack(1), 1);
     c.due("twelve scrapes still", z.count(2), 12);
     c.due("goes on from there", z.clear(), 20);
+    imagesHoldAll();
 
     c.says("Promise 33", "UNKNOWN, NOT: it was not kept.");
     c.bounds("i", 0, 1, Check.UNKNOWN, i -> z.goBack(i));
